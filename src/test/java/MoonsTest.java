@@ -102,6 +102,35 @@ final class MoonsTest {
         check.same("left", 0, x.removeMoon(0));
         check.fails("none", INDEX, () -> x.removeMoon(0));
         check.same("count", 0, x.moonCount());
+        removeFromAFullTub();
+    }
+
+    private static void removeFromAFullTub() {
+        for (int removed = 0; removed < 5; removed++) {
+            BathtubTides x = new BathtubTides();
+            for (int moon = 0; moon < 5; moon++) {
+                add(x, moon % 3, moon + 1, 2 * moon, moon + 3);
+            }
+            for (int towel = 0; towel < 4; towel++) {
+                x.placeToe(2 * towel + 1);
+                x.layTowel(3 * towel, 10 * towel + 5);
+            }
+            x.insertPlug(10);
+            check.same("left", 4, x.removeMoon(removed));
+            for (int moon = 0; moon < 4; moon++) {
+                int before = moon < removed ? moon : moon + 1;
+                check.same("kind", "hsb".charAt(before % 3), Check.moon(x, moon).charAt(0));
+                check.same("mass", before + 1, x.massOf(moon));
+                check.same("position", 2 * before, x.positionOf(moon));
+            }
+            for (int towel = 0; towel < 4; towel++) {
+                check.same("toe", true, x.hasToe(2 * towel + 1));
+                check.same("shore", 3 * towel, x.shoreOf(towel));
+                check.same("height", 10 * towel + 5, x.heightOf(towel));
+                check.same("dry", "0 0", x.absorbedBy(towel) + " " + x.floodsOf(towel));
+            }
+            check.same("plug", 10, x.plugPosition());
+        }
     }
 
     private static void promise7Position() {

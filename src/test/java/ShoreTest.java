@@ -117,6 +117,15 @@ final class ShoreTest {
         check.same("a new towel is dry", 0, x.layTowel(2, 3));
         check.same("a new towel is dry", "0 0", x.absorbedBy(0) + " " + x.floodsOf(0));
 
+        BathtubTides wet = new BathtubTides();
+        wet.layTowel(1, 60);
+        wet.layTowel(2, 0);
+        wet.advance(4);
+        wet.removeTowel(0);
+        check.same("the number of a wet towel that has moved down", 1, wet.layTowel(3, 60));
+        check.same("its new towel is dry", "0 0", wet.absorbedBy(1) + " " + wet.floodsOf(1));
+        check.same("the wet one stays wet", "2 4 4", wet.shoreOf(0) + " " + wet.absorbedBy(0) + " " + wet.floodsOf(0));
+
         BathtubTides y = full();
         check.same("left", 0, y.removeTowel(0));
         check.same("up to 40", 40, y.baseLevel());

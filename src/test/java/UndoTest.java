@@ -46,6 +46,7 @@ final class UndoTest {
         steps.add(x -> x.removeToe(4));
         steps.add(x -> x.insertPlug(2));
         steps.add(x -> x.insertPlug(2));
+        steps.add(x -> x.setFlow(1));
         steps.add(x -> x.pullPlug());
         steps.add(x -> x.insertPlug(0));
         steps.add(x -> x.wringTowel(0));

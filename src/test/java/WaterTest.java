@@ -210,5 +210,10 @@ final class WaterTest {
         check.same("tie of some", 7, x.highestShore());
         x.placeToe(7);
         check.same("next", 8, x.highestShore());
+        for (int position = 0; position < 12; position++) {
+            BathtubTides y = new BathtubTides();
+            y.addHardMoon(1, position, 12);
+            check.same("under the moon", position, y.highestShore());
+        }
     }
 }
