@@ -48,6 +48,10 @@ final class ShoreTest {
         check.same("others stay", "true false true true",
                 x.hasToe(11) + " " + x.hasToe(0) + " " + x.hasToe(5) + " " + x.hasToe(6));
         check.same("again", 4, x.placeToe(1));
+        BathtubTides y = new BathtubTides();
+        y.addSoftMoon(1, 0, 1);
+        check.same("a moon is no toe", 1, y.placeToe(0));
+        check.same("a moon is no toe", 0, y.removeToe(0));
     }
 
     private static void promises16To18Plug() {
@@ -122,6 +126,7 @@ final class ShoreTest {
         wet.layTowel(2, 0);
         wet.advance(4);
         wet.removeTowel(0);
+        check.same("balanced", true, wet.isBalanced());
         check.same("the number of a wet towel that has moved down", 1, wet.layTowel(3, 60));
         check.same("its new towel is dry", "0 0", wet.absorbedBy(1) + " " + wet.floodsOf(1));
         check.same("the wet one stays wet", "2 4 4", wet.shoreOf(0) + " " + wet.absorbedBy(0) + " " + wet.floodsOf(0));

@@ -215,5 +215,9 @@ final class WaterTest {
             y.addHardMoon(1, position, 12);
             check.same("under the moon", position, y.highestShore());
         }
+        BathtubTides damped = new BathtubTides();
+        damped.addHardMoon(6, 0, 12);
+        damped.placeToe(0);
+        check.same("beside the toe under the moon", 1, damped.highestShore());
     }
 }
