@@ -6,6 +6,14 @@ final class Check {
         Object answer();
     }
 
+    interface Maker {
+        BathtubTides make();
+    }
+
+    interface Asking {
+        Object of(BathtubTides x);
+    }
+
     private final String name;
     private int asked = 0;
     private int wrong = 0;
@@ -35,6 +43,18 @@ final class Check {
             wrong++;
             System.out.println(name + ": " + what + " answered " + got + ", due is " + due);
         }
+    }
+
+    /** The call throws, and all that can be asked of the tub is as before it. */
+    void refuses(String what, Class<? extends RuntimeException> due, Maker maker, Asking asking) {
+        BathtubTides x = maker.make();
+        String before = all(x);
+        fails(what, due, () -> asking.of(x));
+        same("the state after " + what, before, all(x));
+    }
+
+    boolean holds() {
+        return asked > 0 && wrong == 0;
     }
 
     void close() {

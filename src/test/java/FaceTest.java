@@ -99,6 +99,11 @@ final class FaceTest {
         for (Class<?> inside : face.getDeclaredClasses()) {
             check.same("static " + inside.getName(), true, Modifier.isStatic(inside.getModifiers()));
             check.same("not public " + inside.getName(), false, Modifier.isPublic(inside.getModifiers()));
+            for (Method method : inside.getDeclaredMethods()) {
+                if (Modifier.isPrivate(method.getModifiers())) {
+                    check.same("own name of " + method, false, names.contains(method.getName()));
+                }
+            }
             for (Field field : inside.getDeclaredFields()) {
                 checkStatic(field);
             }

@@ -152,7 +152,7 @@ final class MoonsTest {
         x.addSoftMoon(1, 0, 1);
         x.addBubbleMoon(5, 0, 1);
         x.addBubbleMoon(1, 0, 1);
-        for (int age = 0; age <= 90; age++) {
+        for (int age = 0; age <= 75; age++) {
             check.same("hard", 5, x.massOf(0));
             check.same("soft 6 at " + age, Math.max(0, 6 - age / 10), x.massOf(1));
             check.same("soft 1 at " + age, age < 10 ? 1 : 0, x.massOf(2));

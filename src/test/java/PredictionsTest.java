@@ -34,21 +34,19 @@ final class PredictionsTest {
     }
 
     private static void promises36And37TidesCome() {
-        int[][] direct = new int[145][12];
-        int[][] stepped = new int[145][12];
-        BathtubTides x = sky();
         for (int minutes = 0; minutes <= 144; minutes++) {
+            BathtubTides x = sky();
+            int[] direct = new int[12];
+            int[] stepped = new int[12];
             for (int position = 0; position < 12; position++) {
-                direct[minutes][position] = x.tideIn(position, minutes);
-                stepped[minutes][position] = x.tideBySteps(position, minutes);
+                direct[position] = x.tideIn(position, minutes);
+                stepped[position] = x.tideBySteps(position, minutes);
             }
-        }
-        for (int minutes = 0; minutes <= 144; minutes++) {
+            Tubs.pass(x, minutes);
             for (int position = 0; position < 12; position++) {
-                check.same("tideIn " + minutes, x.tideAt(position), direct[minutes][position]);
-                check.same("tideBySteps " + minutes, x.tideAt(position), stepped[minutes][position]);
+                check.same("tideIn " + minutes, x.tideAt(position), direct[position]);
+                check.same("tideBySteps " + minutes, x.tideAt(position), stepped[position]);
             }
-            x.advance(1);
         }
     }
 
@@ -56,13 +54,15 @@ final class PredictionsTest {
         BathtubTides calm = new BathtubTides();
         check.same("the lowest one in a tie", 0, calm.highTideIn(11));
         check.same("the lowest one in a tie", 0, calm.lowTideIn(0));
-        BathtubTides x = sky();
         for (int position = 0; position < 12; position++) {
+            BathtubTides x = sky();
+            int[] tides = new int[145];
             int high = 0;
             int low = 0;
             for (int minutes = 0; minutes <= 144; minutes++) {
-                high = x.tideIn(position, minutes) > x.tideIn(position, high) ? minutes : high;
-                low = x.tideIn(position, minutes) < x.tideIn(position, low) ? minutes : low;
+                tides[minutes] = x.tideIn(position, minutes);
+                high = tides[minutes] > tides[high] ? minutes : high;
+                low = tides[minutes] < tides[low] ? minutes : low;
             }
             check.same("high", high, x.highTideIn(position));
             check.same("low", low, x.lowTideIn(position));

@@ -62,16 +62,25 @@ final class UndoTest {
     }
 
     private static void promise53EachModification() {
-        BathtubTides x = busy();
-        for (Step step : modifications()) {
+        for (int i = 0; i < modifications().size(); i++) {
+            Step step = modifications().get(i);
+            BathtubTides x = afterSteps(i);
             String before = Check.all(x);
             step.take(x);
-            String after = Check.all(x);
             check.same("left", 7, x.undo());
             check.same("undone", before, Check.all(x));
             step.take(x);
-            check.same("again", after, Check.all(x));
+            check.same("again", Check.all(afterSteps(i + 1)), Check.all(x));
         }
+    }
+
+    /** The busy tub after the first of the modifications. */
+    private static BathtubTides afterSteps(int count) {
+        BathtubTides x = busy();
+        for (Step step : modifications().subList(0, count)) {
+            step.take(x);
+        }
+        return x;
     }
 
     private static void promise53TheLast8() {
@@ -86,17 +95,22 @@ final class UndoTest {
                 steps.add(y -> y.advance(7));
             }
             for (int i = 0; i < count; i++) {
-                states.add(Check.all(x));
+                states.add(brief(x));
                 steps.get(i).take(x);
             }
             for (int left = Math.min(8, count) - 1; left >= 0; left--) {
                 check.same("left", left, x.undo());
-                check.same("undone", states.remove(states.size() - 1), Check.all(x));
+                check.same("undone", states.remove(states.size() - 1), brief(x));
             }
             String last = Check.all(x);
             check.fails("none is left", STATE, () -> x.undo());
             check.same("unchanged", last, Check.all(x));
         }
+    }
+
+    /** Few calls, for an object that is used for 512 of them at most. */
+    private static String brief(BathtubTides x) {
+        return x.time() + " " + x.baseLevel() + " " + x.tideAt(0) + " " + x.moonCount() + " " + x.towelCount();
     }
 
     private static void promise53NoModification() {
@@ -195,16 +209,15 @@ final class UndoTest {
     }
 
     private static void promise55EachField() {
-        BathtubTides x = busy();
-        for (Step step : modifications()) {
+        for (int i = 0; i < modifications().size(); i++) {
+            BathtubTides x = afterSteps(i);
             x.save();
             String before = Check.all(x);
-            step.take(x);
+            modifications().get(i).take(x);
             x.advance(3);
             x.restore();
             check.same("restored", before, Check.all(x));
             check.fails("nothing to undo", STATE, () -> x.undo());
-            step.take(x);
         }
     }
 }

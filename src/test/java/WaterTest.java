@@ -117,14 +117,7 @@ final class WaterTest {
             check.same("level", base, x.levelAt(6));
         }
         check.same("limited", 40, x.baseLevel());
-        x.setFlow(-3);
-        for (int time = 121; time <= 300; time++) {
-            x.advance(1);
-            base = time % 12 == 0 ? Math.max(0, base - 3) : base;
-            check.same("base at " + time, base, x.baseLevel());
-        }
-        check.same("limited", 0, x.baseLevel());
-        check.same("balanced", true, x.isBalanced());
+        baseFallsTo0();
         BathtubTides y = new BathtubTides();
         y.setFlow(2);
         y.advance(60);
@@ -134,6 +127,22 @@ final class WaterTest {
         check.same("not yet", 30, y.baseLevel());
         y.advance(1);
         check.same("now", 29, y.baseLevel());
+    }
+
+    private static void baseFallsTo0() {
+        BathtubTides x = new BathtubTides();
+        x.setFlow(3);
+        x.advance(60);
+        x.advance(60);
+        x.setFlow(-3);
+        int base = 40;
+        for (int time = 121; time <= 300; time++) {
+            x.advance(1);
+            base = time % 12 == 0 ? Math.max(0, base - 3) : base;
+            check.same("base at " + time, base, x.baseLevel());
+        }
+        check.same("limited", 0, x.baseLevel());
+        check.same("balanced", true, x.isBalanced());
     }
 
     private static void promise32Spilled() {
